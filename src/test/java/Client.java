@@ -1,5 +1,3 @@
-import java.io.ByteArrayOutputStream;
-
 /**
  * A user of one connection: sends a message, takes the answer, and tells it as a text:
  * "error name", "none" (no answer), or the parts of the answer, one blank between them.
@@ -129,26 +127,16 @@ final class Client {
     }
 
     byte[] takeAll() {
-        ByteArrayOutputStream out = new ByteArrayOutputStream();
-        for (int i = 0; i < 1000 && server.waiting(connection) > 0; i++) {
-            int n = Math.min(8, server.waiting(connection));
-            byte[] taken = new Bytes().number(server.take(connection), n).all();
-            out.write(taken, 0, n);
+        Bytes taken = new Bytes();
+        for (int waits = server.waiting(connection); waits > 0; waits = server.waiting(connection)) {
+            for (int i = 0; i < waits / 8; i++) {
+                taken.number(server.take(connection), 8);
+            }
+            if (waits < 8) {
+                taken.number(server.take(connection), waits);
+            }
         }
-        return out.toByteArray();
-    }
-
-    /** All answers in some bytes, without a look at their tags, one blank line between them. */
-    static String tellAll(byte[] bytes) {
-        StringBuilder told = new StringBuilder();
-        int at = 0;
-        while (at < bytes.length) {
-            int size = (int) Bytes.numberIn(bytes, at, 4);
-            byte[] one = java.util.Arrays.copyOfRange(bytes, at, at + size);
-            told.append(told.length() == 0 ? "" : "; ").append(tell(one, -1, (int) Bytes.numberIn(one, 5, 2)));
-            at += size;
-        }
-        return told.toString();
+        return taken.all();
     }
 
     private static String tell(byte[] answer, int askedType, int tag) {
