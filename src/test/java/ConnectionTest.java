@@ -6,6 +6,7 @@ public final class ConnectionTest {
         bytesOfFeedAndTake();
         inputOf160();
         outputOf128();
+        outputOf256();
         answersInOrder();
         broken();
         brokenByNewMsize();
@@ -127,6 +128,31 @@ public final class ConnectionTest {
         Check.is("and then the third", client.server.waiting(0), 134);
     }
 
+    /** Behind 128 bytes comes the longest answer: a reading of 117 bytes. */
+    private static void outputOf256() {
+        TreeServer server = new TreeServer();
+        Client ann = Client.of(server, 1, "ann");
+        ann.alter(0, new Alteration().mode(Client.DIR | 0x1FF));
+        Client cy = Client.of(server, 0, "cy");
+        for (String name : new String[] {"a", "123456"}) {
+            cy.createAt(1, name, 0x1FF, 0);
+            cy.alter(1, new Alteration().group("cy"));
+            cy.clunk(1);
+        }
+        cy.open(0, 0);
+        for (int i = 0; i < 9; i++) {
+            flush(cy);
+        }
+        for (int i = 0; i < 5; i++) {
+            unknownType(cy);
+        }
+        cy.feed(Bytes.message(116, 9, new Bytes().number(0, 4).number(0, 8).number(117, 4).all()));
+        Check.is("256 wait", server.waiting(0), 256);
+        byte[] all = cy.takeAll();
+        Check.is("the last answer", Bytes.numberIn(all, 128, 8), 0x75000975_00000080L);
+        Check.is("its end", Bytes.textIn(all, 254, 2), "cy");
+    }
+
     private static void answersInOrder() {
         Client client = Client.of("ann");
         for (int i = 0; i < 35; i++) {
@@ -153,6 +179,13 @@ public final class ConnectionTest {
             Check.is("status", client.server.status(0), 0);
             Check.is("works again", client.version(100, "9P2000"), "100 9P2000");
         }
+        Client emptied = Client.of("ann");
+        emptied.feed(Bytes.message(108, 1, new byte[] {0, 0}));
+        emptied.server.feed(0, 0, 8);
+        Check.is("no output", emptied.server.waiting(0), 0);
+        Check.is("take", emptied.server.take(0), 0L);
+        Check.is("no input that could be handled", emptied.server.waiting(0), 0);
+        Check.is("status", emptied.server.status(0), 2);
         for (int size : new int[] {7, 128}) {
             Client client = Client.of("ann");
             client.server.feed(0, size, 4);

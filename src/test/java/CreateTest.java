@@ -97,6 +97,13 @@ public final class CreateTest {
         cy.walk(0, 1, "d");
         Check.is("for others", cy.create(1, "g", 0x1FF, 0), "0.0.3");
         Check.is("owner and group", cy.stat(1), "g 0.0.3 4b 0 0 cy ann cy");
+
+        server = new TreeServer();
+        Client bob = Client.of(server, 0, "bob");
+        bob.createAt(1, "d", Client.DIR | 0x1FF, 0);
+        bob.alter(1, new Alteration().group("bob"));
+        bob.createAt(2, "e", 0x1FF, 0, "d");
+        Check.is("the directory's group", bob.stat(2), "e 0.0.2 1fd 0 0 bob bob bob");
     }
 
     private static void openAfterwards() {

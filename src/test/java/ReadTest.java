@@ -122,6 +122,10 @@ public final class ReadTest {
         Check.is("then nothing else goes on", ann.read(1, 177, 100), "error offset");
         Check.is("then nothing else goes on", ann.read(1, 59, 100), "error offset");
         Check.is("but 0", Client.names(ann.read(1, 0, 100)), "59: a");
+        ann.clunk(1);
+        ann.walk(0, 1);
+        ann.open(1, 0);
+        Check.is("a new fid of the same number has not read", ann.read(1, 59, 100), "error offset");
     }
 
     private static void msizes() {

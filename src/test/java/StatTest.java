@@ -62,6 +62,8 @@ public final class StatTest {
         int writes = ann.server.writes();
         Check.is("type", ann.alter(1, new Alteration().type(0)), "error stat");
         Check.is("type", ann.alter(1, new Alteration().type(0xFF)), "error stat");
+        Check.is("type", ann.alter(1, new Alteration().type(0xFF00)), "error stat");
+        Check.is("dev", ann.alter(1, new Alteration().dev(0xFFFFFF00L)), "error stat");
         Check.is("dev", ann.alter(1, new Alteration().dev(0)), "error stat");
         Check.is("dev", ann.alter(1, new Alteration().dev(0x7FFFFFFF)), "error stat");
         Check.is("qid's type", ann.alter(1, new Alteration().qid(0, -1, -1)), "error stat");
@@ -131,6 +133,10 @@ public final class StatTest {
         Check.is("bob is not the owner", at(ann, "bob").alter(1, new Alteration().mtime(1)), "error perm");
         Check.is("with length", ann.alter(1, new Alteration().mtime(3).length(4)), "ok");
         Check.is("it comes last", ann.stat(1), "f 0.2.1 1fd 3 4 ann ann ann");
+        Check.is("then mode", ann.alter(1, new Alteration().mode(0x1F8)), "ok");
+        ann.write(1, 0, "x");
+        Check.is("length alone", ann.alter(1, new Alteration().length(2)), "ok");
+        Check.is("leaves the mtime and mode that were given ahead", ann.stat(1), "f 0.4.1 1f8 20 2 ann ann ann");
     }
 
     private static void groups() {
@@ -163,6 +169,9 @@ public final class StatTest {
         Check.is("the directory is", ann.stat(0), "/ 80.3.0 800001fd 30 0 ann ann ann");
         Check.is("old name", ann.walk(0, 3, "f"), "error noent");
         Check.is("new name", ann.walk(0, 3, "new"), "walked 0.1.1");
+        Check.is("of one character", ann.alter(2, new Alteration().name("o")), "ok");
+        Check.is("of one character", ann.stat(2), "o 0.0.2 1fd 20 0 ann ann ann");
+        ann.alter(2, new Alteration().name("other"));
         Client bob = Client.of(server, 1, "bob");
         bob.walk(0, 1, "new");
         Check.is("exists", bob.alter(1, new Alteration().name("other")), "error exist");
@@ -170,7 +179,7 @@ public final class StatTest {
         int writes = server.writes();
         Check.is("its own", bob.alter(1, new Alteration().name("new")), "ok");
         Check.is("is a change", server.writes(), writes + 7);
-        Check.is("of the directory", ann.stat(0), "/ 80.4.0 800001fd 40 0 ann ann bob");
+        Check.is("of the directory", ann.stat(0), "/ 80.6.0 800001fd 40 0 ann ann bob");
         for (String wrong : new String[] {".", "..", "a/b", "123456789", " ", "\u00e4", "\u007f"}) {
             Check.is("name " + wrong, bob.alter(1, new Alteration().name(wrong)), "error name");
         }
@@ -220,6 +229,7 @@ public final class StatTest {
         Check.is("name", ann.alter(0, new Alteration().name("r")), "error perm");
         Check.is("name", ann.alter(0, new Alteration().name("/")), "error perm");
         Check.is("mode", ann.alter(0, new Alteration().mode(Client.DIR | 7)), "ok");
+        Check.is("mode alone", ann.stat(0), "/ 80.0.0 80000007 0 0 ann ann ann");
         Check.is("mtime", ann.alter(0, new Alteration().mtime(77)), "ok");
         Check.is("group", ann.alter(0, new Alteration().group("ann")), "ok");
         Check.is("stat", ann.stat(0), "/ 80.0.0 80000007 77 0 ann ann ann");
