@@ -894,9 +894,10 @@ public final class TreeServer {
             return count > 0 ? nodes[count - 1] : root;
         }
 
+        /** A new last entry of a directory; null if there is no node left for it. */
         Node add(Node directory) {
             if (count >= NODES) {
-                return root;
+                return null;
             }
             Node node = nodes[count];
             count++;
@@ -983,6 +984,9 @@ public final class TreeServer {
 
         private void create(Tree tree) {
             Node made = tree.add(node);
+            if (made == null) {
+                return;
+            }
             made.version = 0;
             made.mode = mode;
             made.mtime = time;

@@ -1,3 +1,6 @@
+import java.util.Map;
+import java.util.WeakHashMap;
+
 /**
  * A user of one connection: sends a message, takes the answer, and tells it as a text:
  * "error name", "none" (no answer), or the parts of the answer, one blank between them.
@@ -6,6 +9,13 @@ final class Client {
     static final long DIR = 0x80000000L;
     static final long APPEND = 0x40000000L;
     static final long EXCL = 0x20000000L;
+
+    /** Of a fid that lives only as long as the method that makes it. */
+    private static final long PASSING = 0xFFFFFFFEL;
+
+    // What an object answers after its 512th call is free, so no test may ask for more.
+    private static final int MOST_CALLS = 512;
+    private static final Map<TreeServer, Integer> CALLS = new WeakHashMap<>();
 
     final TreeServer server;
     final int connection;
@@ -51,11 +61,15 @@ final class Client {
     }
 
     String walk(long fid, long newFid, String... names) {
+        return send(110, walkBody(fid, newFid, names));
+    }
+
+    private static byte[] walkBody(long fid, long newFid, String... names) {
         Bytes bytes = new Bytes().number(fid, 4).number(newFid, 4).number(names.length, 2);
         for (String name : names) {
             bytes.text(name);
         }
-        return send(110, bytes.all());
+        return bytes.all();
     }
 
     String open(long fid, int mode) {
@@ -63,7 +77,11 @@ final class Client {
     }
 
     String create(long fid, String name, long perm, int mode) {
-        return send(114, new Bytes().number(fid, 4).text(name).number(perm, 4).number(mode, 1).all());
+        return send(114, createBody(fid, name, perm, mode));
+    }
+
+    static byte[] createBody(long fid, String name, long perm, int mode) {
+        return new Bytes().number(fid, 4).text(name).number(perm, 4).number(mode, 1).all();
     }
 
     /** Walks from fid 0 to a new fid and creates there. */
@@ -77,7 +95,11 @@ final class Client {
     }
 
     String write(long fid, long offset, String data) {
-        return send(118, new Bytes().number(fid, 4).number(offset, 8).number(data.length(), 4).raw(data).all());
+        return send(118, writeBody(fid, offset, data));
+    }
+
+    private static byte[] writeBody(long fid, long offset, String data) {
+        return new Bytes().number(fid, 4).number(offset, 8).number(data.length(), 4).raw(data).all();
     }
 
     String clunk(long fid) {
@@ -97,14 +119,34 @@ final class Client {
         return send(126, new Bytes().number(fid, 4).number(stat.length, 2).raw(stat).all());
     }
 
-    /** The stat of what lies at a place from fid 0 on, by way of the fid 0xFFFFFFFE. */
+    /** Makes a file with a content in a directory that fid 0 leads to, and leaves no fid at it. */
+    void makeFile(String name, long perm, String content, String... directory) {
+        make(name, perm, content, directory);
+    }
+
+    void makeDirectory(String name, long perm, String... directory) {
+        make(name, DIR | perm, "", directory);
+    }
+
+    // All messages are fed in one go, and the answers taken in one: that takes few of an object's calls.
+    private void make(String name, long perm, String content, String... directory) {
+        Bytes all = new Bytes().raw(Bytes.message(110, 1, walkBody(0, PASSING, directory)))
+            .raw(Bytes.message(114, 2, createBody(PASSING, name, perm, content.isEmpty() ? 0 : 1)));
+        if (!content.isEmpty()) {
+            all.raw(Bytes.message(118, 3, writeBody(PASSING, 0, content)));
+        }
+        feed(all.raw(Bytes.message(120, 4, new Bytes().number(PASSING, 4).all())).all());
+        takeAll();
+    }
+
+    /** The stat of what lies at a place that fid 0 leads to. */
     String look(String... names) {
-        String walked = walk(0, 0xFFFFFFFEL, names);
+        String walked = walk(0, PASSING, names);
         if (walked.startsWith("error")) {
             return walked;
         }
-        String told = stat(0xFFFFFFFEL);
-        clunk(0xFFFFFFFEL);
+        String told = stat(PASSING);
+        clunk(PASSING);
         return told;
     }
 
@@ -117,10 +159,17 @@ final class Client {
         return answer.length == 0 ? "none" : tell(answer, type, tag);
     }
 
+    /** The bytes of the answer to a message. */
+    byte[] ask(int type, int newTag, byte[] body) {
+        feed(Bytes.message(type, newTag, body));
+        return takeAll();
+    }
+
     boolean feed(byte[] bytes) {
         boolean taken = true;
         for (int at = 0; at < bytes.length && taken; at += 8) {
             int n = Math.min(8, bytes.length - at);
+            count(1);
             taken = server.feed(connection, Bytes.numberIn(bytes, at, n), n);
         }
         return taken;
@@ -128,7 +177,9 @@ final class Client {
 
     byte[] takeAll() {
         Bytes taken = new Bytes();
+        count(1);
         for (int waits = server.waiting(connection); waits > 0; waits = server.waiting(connection)) {
+            count(1 + Math.max(1, waits / 8));
             for (int i = 0; i < waits / 8; i++) {
                 taken.number(server.take(connection), 8);
             }
@@ -137,6 +188,12 @@ final class Client {
             }
         }
         return taken.all();
+    }
+
+    private void count(int calls) {
+        if (CALLS.merge(server, calls, Integer::sum) > MOST_CALLS) {
+            throw new IllegalStateException("more than 512 calls of one object");
+        }
     }
 
     private static String tell(byte[] answer, int askedType, int tag) {

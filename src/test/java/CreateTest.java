@@ -127,12 +127,11 @@ public final class CreateTest {
     private static void twentyNodes() {
         Client ann = Client.of("ann");
         for (int i = 0; i < 20; i++) {
-            Check.is("node " + i, ann.createAt(1, "n" + i, 0x1FF, 0), "0.0." + (i + 1));
-            ann.clunk(1);
+            ann.makeFile("n" + i, 0x1FF, "");
+            Check.is("nodes", ann.server.nodes(), i + 1);
             Check.is("free", ann.server.free(), 24 - (i + 4) / 4);
         }
         int writes = ann.server.writes();
-        Check.is("nodes", ann.server.nodes(), 20);
         Check.is("exist is ahead", ann.createAt(1, "n3", 0x1FF, 0), "error exist");
         Check.is("no more", ann.create(1, "n20", 0x1FF, 0), "error full");
         Check.is("no more", ann.create(1, "d", Client.DIR, 0), "error full");

@@ -6,6 +6,7 @@ import java.util.Random;
 public final class WildTest {
     private static final int RUNS = 4000;
     private static final int CALLS = 512;
+    private static final int CALLS_OF_A_STEP = 80;
     private static final String[] NAMES = {"a", "b", "c", "dd", "e", "12345678", "..", "", "."};
     private static final String[] USERS = {"ann", "ann", "bob", "bob", "cy"};
 
@@ -36,7 +37,7 @@ public final class WildTest {
             send(connection, 100, new Bytes().number(128, 4).text("9P2000").all());
             send(connection, 104, new Bytes().number(0, 4).number(-1, 4).text(pick(USERS)).text("").all());
         }
-        while (calls < CALLS && agrees) {
+        while (calls + CALLS_OF_A_STEP <= CALLS && agrees) {
             step();
         }
     }
@@ -82,6 +83,7 @@ public final class WildTest {
             case 3:
                 server.clock(k);
                 model.clock(k);
+                calls++;
                 break;
             case 4:
                 same("feed", server.feed(any, 0x6300000007L, k), model.feed(any, 0x6300000007L, k));
