@@ -177,8 +177,8 @@ public final class ConnectionEdgesTest {
     }
 
     private static void wholeMessage() {
-        Check.sentence("and the input begins with a whole message, that is taken out and handled, its answer is put behind "
-            + "the output");
+        Check.sentence("and the input begins with a whole message, that is taken out and handled, its answer is "
+            + "put behind the output");
         Client client = Client.of("ann");
         byte[] message = Bytes.message(108, 1, new byte[2]);
         for (int i = 0; i + 1 < message.length; i++) {

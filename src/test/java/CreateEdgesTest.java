@@ -5,6 +5,7 @@ public final class CreateEdgesTest {
     public static void main(String[] args) {
         open();
         noDirectory();
+        nameDoesNotFit();
         permBits();
         modeBits();
         directoryWithMode();
@@ -318,5 +319,16 @@ public final class CreateEdgesTest {
         Check.is("nodes", ann.server.nodes(), 1);
         Check.is("the fid is where it was, not open", ann.walk(0, 1, "f"), "walked 0.0.1");
         Check.is("root", ann.stat(0), "/ 80.1.0 800001fd 0 0 ann ann ann");
+    }
+
+    private static void nameDoesNotFit() {
+        Check.sentence("The name does not fit: \"name\".");
+        Client ann = Client.of("ann");
+        ann.attach(1, "cy");
+        for (String name : new String[] {"", ".", "..", "/", "a/", "123456789", " ", "\u007f", "\u00ff"}) {
+            Check.is("name " + name, ann.create(0, name, 0x1FF, 0), "error name");
+            Check.is("ahead of perm", ann.create(1, name, 0x1FF, 0), "error name");
+        }
+        Check.is("nodes", ann.server.nodes(), 0);
     }
 }

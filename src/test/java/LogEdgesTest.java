@@ -31,6 +31,9 @@ public final class LogEdgesTest {
         cutWhenDown();
         restartWhenUp();
         nodesAndFreeWhenDown();
+        upOrDown();
+        nodesBesidesTheRoot();
+        blocksNotTaken();
         Check.end();
     }
 
@@ -202,8 +205,8 @@ public final class LogEdgesTest {
     }
 
     private static void downWithoutAnswer() {
-        Check.sentence("the server is DOWN, with no answer: the connections have no fids, empty inputs and outputs, no version "
-            + "agreed on, MSIZE 128, are not broken");
+        Check.sentence("the server is DOWN, with no answer: the connections have no fids, empty inputs and outputs, "
+            + "no version agreed on, MSIZE 128, are not broken");
         Client ann = Client.of("ann");
         ann.version(96, "9P2000");
         ann.attach(0, "ann");
@@ -393,8 +396,8 @@ public final class LogEdgesTest {
     }
 
     private static void pathOfACreation() {
-        Check.sentence("a node that is created so has its PATH, but no fid; a PATH of a creation that was cut off ahead of "
-            + "that is not used up)");
+        Check.sentence("a node that is created so has its PATH, but no fid; a PATH of a creation that was cut off "
+            + "ahead of that is not used up)");
         Client ann = Client.of("ann");
         int due = 1;
         for (int k = 0; k <= 4; k++) {
@@ -526,5 +529,49 @@ public final class LogEdgesTest {
         Check.is("nodes", ann.server.nodes() + ann.server.free(), 22);
         ann.server.restart();
         Check.is("nodes", ann.server.nodes() + ann.server.free(), 24);
+    }
+
+    private static void upOrDown() {
+        Check.sentence("Whether the server is up.");
+        Client ann = Client.of("ann");
+        Check.is("at first", ann.server.up(), true);
+        ann.server.cut(0);
+        Check.is("a cut alone", ann.server.up(), true);
+        ann.flush(1);
+        Check.is("no change", ann.server.up(), true);
+        ann.create(0, "f", 0x1FF, 0);
+        Check.is("cut off", ann.server.up(), false);
+        ann.server.feed(0, 0, 4);
+        ann.server.hangup(0);
+        Check.is("calls that are refused", ann.server.up(), false);
+        ann.server.restart();
+        Check.is("restarted", ann.server.up(), true);
+    }
+
+    private static void nodesBesidesTheRoot() {
+        Check.sentence("The number of nodes besides the root.");
+        Client ann = Client.of("ann");
+        Check.is("none", ann.server.nodes(), 0);
+        ann.makeDirectory("d", 0x1FF);
+        ann.makeFile("f", 0x1FF, "", "d");
+        Check.is("those in directories, too", ann.server.nodes(), 2);
+        ann.server.hangup(0);
+        Check.is("they stay", ann.server.nodes(), 2);
+    }
+
+    private static void blocksNotTaken() {
+        Check.sentence("The number of blocks that nodes do not take.");
+        Client ann = Client.of("ann");
+        Check.is("all", ann.server.free(), 24);
+        ann.makeDirectory("d", 0x1FF);
+        Check.is("one for the root", ann.server.free(), 23);
+        ann.makeFile("f", 0x1FF, DATA, "d");
+        Check.is("one for d and four for f", ann.server.free(), 18);
+        ann.makeFile("g", 0x1FF, "x", "d");
+        Check.is("one for g", ann.server.free(), 17);
+        ann.server.cut(0);
+        ann.walk(0, 1, "d", "f");
+        ann.remove(1);
+        Check.is("the log takes none", ann.server.free(), 17);
     }
 }

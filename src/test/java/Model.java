@@ -43,7 +43,8 @@ final class Model {
         boolean may(String user, char right) {
             int bit = right == 'r' ? 4 : right == 'w' ? 2 : 1;
             boolean inGroup = user.equals(group) || group.equals("ann") && user.equals("bob");
-            return (mode & bit) != 0 || inGroup && (mode & bit * 8) != 0 || user.equals(owner) && (mode & bit * 64) != 0;
+            return (mode & bit) != 0 || inGroup && (mode & bit * 8) != 0
+                || user.equals(owner) && (mode & bit * 64) != 0;
         }
 
         Item child(String wanted) {

@@ -1,3 +1,5 @@
+import java.util.Arrays;
+
 /** The edges of type 112. */
 public final class OpenEdgesTest {
     public static void main(String[] args) {
@@ -304,7 +306,7 @@ public final class OpenEdgesTest {
         Check.sentence("Answer: qid, 0[4].");
         Client ann = withFile(0x600001FFL);
         byte[] answer = ann.ask(112, 3, new Bytes().number(1, 4).number(0x13, 1).all());
-        Check.is("answer", java.util.Arrays.toString(answer), java.util.Arrays.toString(new Bytes().number(24, 4)
+        Check.is("answer", Arrays.toString(answer), Arrays.toString(new Bytes().number(24, 4)
             .number(113, 1).number(3, 2).number(0x60, 1).number(1, 4).number(1, 8).number(0, 4).all()));
     }
 }

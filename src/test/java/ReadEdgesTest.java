@@ -1,3 +1,5 @@
+import java.util.Arrays;
+
 /** The edges of type 116. */
 public final class ReadEdgesTest {
     public static void main(String[] args) {
@@ -205,8 +207,8 @@ public final class ReadEdgesTest {
     }
 
     private static void goesOn() {
-        Check.sentence("with the offset of the fid's latest reading (one that was an error is none) plus the bytes that it "
-            + "gave");
+        Check.sentence("with the offset of the fid's latest reading (one that was an error is none) plus the bytes "
+            + "that it gave");
         Client cy = withShortEntries(5);
         Check.is("two", Client.names(cy.read(1, 0, 117)), "112: a b");
         Check.is("one", Client.names(cy.read(1, 112, 60)), "56: c");
@@ -338,7 +340,7 @@ public final class ReadEdgesTest {
         ann.createAt(1, "f", 0x1FF, 2);
         ann.write(1, 0, "\u0000\u0001\u007f\u0080\u00ff");
         byte[] answer = ann.ask(116, 3, new Bytes().number(1, 4).number(1, 8).number(9, 4).all());
-        Check.is("answer", java.util.Arrays.toString(answer), java.util.Arrays.toString(new Bytes().number(15, 4)
+        Check.is("answer", Arrays.toString(answer), Arrays.toString(new Bytes().number(15, 4)
             .number(117, 1).number(3, 2).number(4, 4).raw("\u0001\u007f\u0080\u00ff").all()));
     }
 }

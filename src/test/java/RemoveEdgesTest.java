@@ -19,6 +19,8 @@ public final class RemoveEdgesTest {
         releaseIsBySixteenBytes();
         releaseOfOneWithAnotherName();
         releaseOfAnOpenOne();
+        releaseOfTheRoot();
+        releaseOfADirectoryWithEntries();
         Check.end();
     }
 
@@ -274,5 +276,41 @@ public final class RemoveEdgesTest {
         Check.is("free", ann.server.free(), 23);
         ann.walk(0, 1, "d");
         Check.is("the directory is empty", ann.remove(1), "ok");
+    }
+
+    /** The root cannot be opened to be removed, and no way of releasing it does so. */
+    private static void releaseOfTheRoot() {
+        Check.sentence("its node not the root, no directory with entries");
+        for (int way = 0; way < 3; way++) {
+            Client ann = Client.of("ann");
+            Check.is("to remove", ann.open(0, 0x40), "error dir");
+            Check.is("open", ann.open(0, 0), "80.0.0");
+            if (way == 0) {
+                ann.clunk(0);
+            } else if (way == 1) {
+                ann.server.hangup(0);
+            } else {
+                ann.server.feed(0, 0, 4);
+            }
+            Check.is("no change", ann.server.writes(), 0);
+            ann.server.hangup(0);
+            ann = Client.of(ann.server, 0, "ann");
+            Check.is("it is there", ann.stat(0), "/ 80.0.0 800001fd 0 0 ann ann ann");
+        }
+    }
+
+    private static void releaseOfADirectoryWithEntries() {
+        Check.sentence("its node not the root, no directory with entries");
+        Client ann = Client.of("ann");
+        ann.makeDirectory("d", 0x1FF);
+        ann.makeFile("f", 0x1FF, "", "d");
+        ann.walk(0, 1, "d");
+        Check.is("to remove", ann.open(1, 0x40), "error dir");
+        Check.is("created to remove", ann.createAt(2, "e", Client.DIR | 0x1FF, 0x40), "error mode");
+        ann.open(1, 0);
+        int writes = ann.server.writes();
+        ann.server.hangup(0);
+        Check.is("no change", ann.server.writes(), writes);
+        Check.is("nodes", ann.server.nodes(), 2);
     }
 }

@@ -23,6 +23,7 @@ public final class SessionEdgesTest {
         versionsThatDoNot();
         refusedVersion();
         versionReleases();
+        versionAnswers();
         auth();
         flush();
         attachInUse();
@@ -391,8 +392,8 @@ public final class SessionEdgesTest {
 
     private static void attachOfNoUser() {
         Check.sentence("No such user: \"user\".");
-        for (String user : new String[] {"", "a", "an", "anna", "Ann", "ANN", "bo", "bobb", "c", "cyy", "dan", "nn", "\u0000",
-            "ann\u0000", "cy "}) {
+        for (String user : new String[] {"", "a", "an", "anna", "Ann", "ANN", "bo", "bobb", "c", "cyy", "dan", "nn",
+            "\u0000", "ann\u0000", "cy "}) {
             Client ann = Client.of("ann");
             Check.is("user " + user, ann.attach(1, user), "error user");
             Check.is("fids", ann.server.fids(0), 1);
@@ -410,5 +411,16 @@ public final class SessionEdgesTest {
         Check.is("the root", ann.stat(0xFFFFFFFFL), "/ 80.1.0 800001fd 0 0 ann ann ann");
         Check.is("for cy", ann.create(0xFFFFFFFFL, "f", 0, 0), "error perm");
         Check.is("not open", ann.read(0xFFFFFFFFL, 0, 1), "error open");
+    }
+
+    private static void versionAnswers() {
+        Check.sentence("Answer: MSIZE[4] and \"9P2000\"[s] or \"unknown\"[s].");
+        Client client = new Client(new TreeServer(), 0);
+        byte[] known = client.ask(100, 0xFFFF, new Bytes().number(0x80000060L, 4).text("9P2000.u").all());
+        Check.is("9P2000", Arrays.toString(known), Arrays.toString(new Bytes().number(19, 4).number(101, 1)
+            .number(0xFFFF, 2).number(128, 4).text("9P2000").all()));
+        byte[] unknown = client.ask(100, 0, new Bytes().number(96, 4).text("").all());
+        Check.is("unknown", Arrays.toString(unknown), Arrays.toString(new Bytes().number(20, 4).number(101, 1)
+            .number(0, 2).number(96, 4).text("unknown").all()));
     }
 }

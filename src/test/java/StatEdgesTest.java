@@ -337,8 +337,8 @@ public final class StatEdgesTest {
     }
 
     private static void nameChangesTheDirectory() {
-        Check.sentence("or an entry is created, removed or named anew in it: its version grows by 1, MTIME is the clock, "
-            + "its changer is the user");
+        Check.sentence("or an entry is created, removed or named anew in it: its version grows by 1, MTIME is the "
+            + "clock, its changer is the user");
         Client ann = withUser("bob");
         ann.server.clock(-30);
         Check.is("named anew", ann.alter(2, new Alteration().name("n")), "ok");

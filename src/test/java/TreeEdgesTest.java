@@ -124,8 +124,8 @@ public final class TreeEdgesTest {
 
     /** A file of cy's of the group ann with one bit alone: the group may not what the owner may. */
     private static void nineBits() {
-        Check.sentence("A user MAY do r, w or x with a node, if the mode says so for others, or for the group and the user "
-            + "is in it, or for the owner and that is the user.");
+        Check.sentence("A user MAY do r, w or x with a node, if the mode says so for others, or for the group and the "
+            + "user is in it, or for the owner and that is the user.");
         int[] modes = {3, 1, 0};
         for (int bit = 0; bit < 9; bit++) {
             Client client = Client.of("ann");

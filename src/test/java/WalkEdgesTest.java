@@ -188,7 +188,8 @@ public final class WalkEdgesTest {
     }
 
     private static void emptyAndDot() {
-        Check.sentence("any other name (an empty one and . too) to the entry of that name, or if there is none: \"noent\"");
+        Check.sentence("any other name (an empty one and . too) to the entry of that name, or if "
+            + "there is none: \"noent\"");
         Client ann = tree();
         Check.is("empty", ann.walk(0, 1, ""), "error noent");
         Check.is("dot", ann.walk(0, 1, "."), "error noent");

@@ -1,3 +1,5 @@
+import java.util.Arrays;
+
 /** The edges of type 118. */
 public final class WriteEdgesTest {
     private static final String SIXTY_FOUR = "0123456789abcdefghijklmnopqrstuvwxyzABCDEFGHIJKLMNOPQRSTUVWXYZ+-";
@@ -17,6 +19,7 @@ public final class WriteEdgesTest {
         refused();
         writesOfTheLog();
         withoutRight();
+        answers();
         Check.end();
     }
 
@@ -227,5 +230,16 @@ public final class WriteEdgesTest {
         ann.alter(2, new Alteration().mode(0));
         Check.is("once open, the mode does not count", ann.write(1, 0, "x"), "wrote 1");
         Check.is("nor to read", ann.read(1, 0, 1), "read x");
+    }
+
+    private static void answers() {
+        Check.sentence("Answer: count[4].");
+        for (int count : new int[] {0, 1, 64}) {
+            Client ann = withFile(0x1FF);
+            byte[] answer = ann.ask(118, 0x8001, new Bytes().number(1, 4).number(0, 8).number(count, 4)
+                .raw(SIXTY_FOUR.substring(0, count)).all());
+            Check.is("answer", Arrays.toString(answer), Arrays.toString(new Bytes().number(11, 4)
+                .number(119, 1).number(0x8001, 2).number(count, 4).all()));
+        }
     }
 }
