@@ -824,8 +824,11 @@ public final class TreeServer {
         }
 
         void rename(byte[] bytes, int count) {
-            nameLength = Math.min(count, MOST_NAME);
-            System.arraycopy(bytes, 0, name, 0, nameLength);
+            nameLength = 0;
+            for (int i = 0; i < count && i < MOST_NAME; i++) {
+                name[i] = bytes[i];
+                nameLength++;
+            }
         }
 
         // Behind the length the content is always zeros, so that to fill it is to lengthen it.

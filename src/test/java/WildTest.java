@@ -4,7 +4,7 @@ import java.util.Random;
 
 /** Promises 1 to 14 at once: long wild runs, the same each time, in which every answer is held against the Model's. */
 public final class WildTest {
-    private static final int RUNS = 4000;
+    private static final int RUNS = 8000;
     private static final int CALLS = 512;
     private static final int CALLS_OF_A_STEP = 80;
     private static final String[] NAMES = {"a", "b", "c", "dd", "e", "12345678", "..", "", "."};
@@ -17,9 +17,15 @@ public final class WildTest {
     private int calls;
     private boolean agrees = true;
 
+    // Of a hundred answers so many are left to wait, of a hundred messages so many get a wrong bit.
+    private final int left;
+    private final int spoilt;
+
     private WildTest(int run) {
         this.run = run;
         random = new Random(run);
+        left = 3 + run % 4 * 25;
+        spoilt = 1 + run % 3 * 3;
     }
 
     public static void main(String[] args) {
@@ -109,7 +115,7 @@ public final class WildTest {
     }
 
     private void drain(int connection) {
-        if (chance(3)) {
+        if (chance(left)) {
             return;
         }
         same("waiting", server.waiting(connection), model.waiting(connection));
@@ -138,7 +144,7 @@ public final class WildTest {
 
     private void send(int connection, int type, byte[] body) {
         byte[] message = Bytes.message(type, random.nextInt(65536), body);
-        if (chance(1)) {
+        if (chance(spoilt)) {
             message[random.nextInt(message.length)] ^= (byte) (1 << random.nextInt(8));
         }
         for (int at = 0; at < message.length && agrees; at += 8) {
